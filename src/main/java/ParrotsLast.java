@@ -293,7 +293,7 @@ public final class ParrotsLast {
             return NONE;
         }
         spare.copyFrom(now);
-        passDays(n);
+        passDays(now, n);
         if (n > 0) {
             past.add(spare);
         }
@@ -304,18 +304,14 @@ public final class ParrotsLast {
         return now.day;
     }
 
-    private int passDays(int n) {
+    private int passDays(Scene scene, int n) {
         for (int i = 0; i < n; i++) {
-            passDay(now);
+            for (int p = 0; p < scene.size; p++) {
+                listenOn(scene.birds[p], scene.day);
+            }
+            scene.day++;
         }
-        return now.day;
-    }
-
-    private void passDay(Scene scene) {
-        for (int p = 0; p < scene.size; p++) {
-            listenOn(scene.birds[p], scene.day);
-        }
-        scene.day++;
+        return scene.day;
     }
 
     private void listenOn(Bird bird, int day) {
@@ -498,7 +494,7 @@ public final class ParrotsLast {
         int digit = text.digitAt(p + 1);
         switch (text.at(p)) {
             case 'd':
-                return passDays(digit);
+                return passDays(now, digit);
             case 'm':
                 return bring(now, digit, text.digitAt(p + 2));
             case 'k':
@@ -1078,7 +1074,7 @@ public final class ParrotsLast {
     private boolean drawAct(Draw draw) {
         int act = draw.next(5);
         if (act < 2) {
-            passDay(spare);
+            passDays(spare, 1);
             return false;
         }
         if (spare.size == 0) {

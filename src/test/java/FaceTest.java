@@ -44,6 +44,12 @@ public final class FaceTest extends Due {
         }
         due("fields " + fields, fields.equals(List.of("NONE")), true);
         due("constructors", ParrotsLast.class.getDeclaredConstructors().length, 1);
+        for (Class<?> inside : ParrotsLast.class.getDeclaredClasses()) {
+            due(inside + " is static", Modifier.isStatic(inside.getModifiers()), true);
+            for (java.lang.reflect.Method m : inside.getDeclaredMethods()) {
+                due(inside + "." + m.getName() + " has a name of the face", want.contains(m.getName()), false);
+            }
+        }
         due("final", Modifier.isFinal(ParrotsLast.class.getModifiers()), true);
     }
 

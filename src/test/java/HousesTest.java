@@ -15,6 +15,7 @@ public final class HousesTest extends Due {
         t.worths();
         t.ruleValues();
         t.ruleSigns();
+        t.ruleBehindRefused();
         t.ruleLength();
         t.parrot();
         t.word();
@@ -160,6 +161,7 @@ public final class HousesTest extends Due {
         due("nine", worths("999999999"), -9);
         due("nine, the last no digit", worths("99999999x"), -9);
         due("a", worths("9a"), -2);
+        due("/", worths("/2345678"), -1);
         due(":", worths("99999999".substring(1) + ":"), -8);
         due("v of b still", x.word(0, 1, 4), 2);
     }
@@ -254,6 +256,17 @@ public final class HousesTest extends Due {
         due("a sign of 0", rule("n" + (char) 0), -2);
         due("a sign above 127", rule("n+" + (char) 200), -3);
         due("fondness of a by none still", x.word(0, 0, 4), 11);
+    }
+
+    /** What a refused rule left behind is in no later one. */
+    private void ruleBehindRefused() {
+        hearThree();
+        due("refused", rule("2+-(3*(n<"), -10);
+        fond("7", 7, 7);
+        due("refused", law("(((n<2)<2"), -10009);
+        fond("(n<2)-(n<2)", 0, 0);
+        due("12", law("12"), 0);
+        fond("3", 3, 3);
     }
 
     private void ruleLength() {

@@ -9,6 +9,7 @@ public final class RowsTest extends Due {
         t.blend();
         t.source();
         t.alike();
+        t.alikeOfMore();
         t.unlike();
         t.before();
         t.forget();
@@ -103,6 +104,26 @@ public final class RowsTest extends Due {
         due("alike(-1, 0)", x.alike(-1, 0), -1);
         due("alike(0, -1)", x.alike(0, -1), -1);
         row(0, 1);
+    }
+
+    private void alikeOfMore() {
+        promise(32);
+        house(0, "bcad");
+        house(1, "adbc");
+        house(2, "abcdefgh");
+        house(3, "hbgdfcea");
+        parrots("08;18;28;38;28");
+        x.days(8);
+        due("ad, bc", x.alike(0, 1), 2);
+        row(0, 3);
+        due("ad, bc", x.alike(1, 0), 2);
+        row(0, 3);
+        due("all", x.alike(2, 4), 8);
+        row(0, 1, 2, 3, 4, 5, 6, 7);
+        due("bce, bde, bdf", x.alike(2, 3), 3);
+        row(1, 2, 4);
+        due("likewise", x.alike(3, 2), 3);
+        row(1, 2, 4);
     }
 
     private void unlike() {

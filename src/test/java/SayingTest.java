@@ -213,6 +213,14 @@ public final class SayingTest extends Due {
         due("already", x.stay(0, 1, 0), 0);
         due("6 against 3, 6, 9", x.stay(0, 1, 1), 6);
         due("never first", x.stay(0, 1, 2), -2);
+        house(2, "hbbcg");
+        due("c, g, h", x.stay(0, 2, 6), -2);
+        rule("(l=h-1)*9");
+        due("the last one: b on day 2", x.stay(0, 2, 1), 1);
+        due("the last one: c on day 3", x.stay(0, 2, 2), 2);
+        due("the last one: g on day 4", x.stay(0, 2, 6), 3);
+        due("the last one: h on day 5", x.stay(0, 2, 7), 4);
+        rule("");
         due("never said there", x.stay(0, 0, 1), -2);
         due("nothing changes", x.parrot(0, 0), 0);
         due("stay(0, 4, 0)", x.stay(0, 4, 0), -1);
@@ -260,10 +268,32 @@ public final class SayingTest extends Due {
         due("never heard", x.hear(16, 8), -2);
         row(4);
         due("hear(-1, 1)", x.hear(-1, 1), -1);
+        due("hear(255, 8)", x.hear(255, 8), -2);
         due("hear(256, 1)", x.hear(256, 1), -1);
         due("hear(1, 0)", x.hear(1, 0), -1);
         due("hear(1, 9)", x.hear(1, 9), -1);
         row(4);
+        hearSix();
+    }
+
+    /** Each of six parrots has heard another word. */
+    private void hearSix() {
+        promise(28);
+        parrots("08;08;08;08;08;08");
+        for (int p = 0; p < 6; p++) {
+            x.cloth(p);
+        }
+        for (int p = 0; p < 6; p++) {
+            house(0, "abcdef".substring(p, p + 1));
+            x.cloth(p);
+            x.days(1);
+            x.cloth(p);
+        }
+        due("six", x.hear(63, 1), 6);
+        row(63);
+        due("five", x.hear(62, 1), 5);
+        row(62);
+        due("one more than there is", x.hear(127, 1), -2);
     }
 
     private void gain() {
