@@ -45,6 +45,15 @@ public final class CounselsTest extends Due {
         due("counsels(4)", x.counsels(4), -1);
         due("counsels(-1)", x.counsels(-1), -1);
         row(0);
+        house(1, "abcdefgh");
+        x.days(60);
+        rule("-w");
+        worths("12345678");
+        due("1 to 8", x.counsels(2), 104);
+        row(1);
+        worths("87654321");
+        due("8 to 1", x.counsels(2), 104);
+        row(0);
     }
 
     private void sure() {
