@@ -1700,6 +1700,7 @@ public final class ParrotsLast {
     /** What was told to be before what. */
     private static final class Tellings {
         static final int WHICH = (1 << MOST_TELLINGS) - 1;
+        static final int BEYOND = 1 << 30;
 
         final int[] earlier = new int[MOST_TELLINGS];
         final int[] after = new int[MOST_TELLINGS];
@@ -1757,7 +1758,7 @@ public final class ParrotsLast {
         int leastCost() {
             costs[0] = 0;
             for (int group = 1; group < 1 << WORDS; group++) {
-                int least = Integer.MAX_VALUE;
+                int least = BEYOND;
                 for (int w = 0; w < WORDS; w++) {
                     if ((group >> w & 1) != 0) {
                         int ahead = group & ~(1 << w);

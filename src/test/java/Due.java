@@ -14,8 +14,12 @@ class Due {
 
     /** A new object for the next promise. */
     void promise(int number) {
+        anew("promise " + number);
+    }
+
+    void anew(String about) {
         x = new ParrotsLast();
-        where = "promise " + number;
+        where = about;
     }
 
     void due(String call, long got, long want) {
@@ -88,6 +92,14 @@ class Due {
     int law(String text) {
         text(text);
         return emptied(x.law());
+    }
+
+    /** These tellings alone: two letters each, the one before the other. */
+    void tell(String pairs) {
+        x.forget();
+        for (int i = 0; i + 1 < pairs.length(); i += 3) {
+            x.before(pairs.charAt(i) - 'a', pairs.charAt(i + 1) - 'a');
+        }
     }
 
     private int emptied(int answer) {

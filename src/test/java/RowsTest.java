@@ -176,13 +176,6 @@ public final class RowsTest extends Due {
         due("drop()", x.drop(), 0);
     }
 
-    private void tell(String pairs) {
-        x.forget();
-        for (int i = 0; i + 1 < pairs.length(); i += 3) {
-            x.before(pairs.charAt(i) - 'a', pairs.charAt(i + 1) - 'a');
-        }
-    }
-
     private void clash() {
         promise(36);
         x.unsaid();
