@@ -263,6 +263,8 @@ public final class HousesEdgesTest extends Edges {
             due("within brackets", rule("(" + sign + ")"), -2);
         }
         due("the rule stays", x.word(0, 3, 4), 9);
+        x = new ParrotsLast();
+        hearAll();
         due("refused", rule("2*-(3+(n<"), -10);
         due("none of it is left", rule("7"), 0);
         due("by 7", x.word(0, 3, 4), 7);
