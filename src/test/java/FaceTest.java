@@ -9,7 +9,7 @@ import java.util.Random;
 
 /** The face is the document's and no more; no call throws anything but what the document says. */
 public final class FaceTest extends Due {
-    private static final String FACE = "sign end house parrots worths rule parrot word said sheet days move cloth teach"
+    static final String FACE = "sign end house parrots worths rule parrot word said sheet days move cloth teach"
             + " speak hush trial undo says place soonest unsaid later alters crackers stay hear gain blend source alike"
             + " unlike before forget clash drop counsels sure note strike fits ask rests law years keep again count row";
     private static final int[] EDGES = {Integer.MIN_VALUE, Integer.MIN_VALUE + 10, -101, -100, -2, -1, 0, 1, 2, 3, 4, 5, 6,
